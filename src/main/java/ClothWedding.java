@@ -1349,7 +1349,7 @@ public final class ClothWedding {
             int lefts = gatherFree(s, 0);
             int rights = gatherFree(s, 1);
             int places = Math.max(lefts, rights);
-            for (int k = 0; k < lefts; k++) {
+            for (int k = 0; k < lefts && places > 0; k++) {
                 int other = (k + s.round) % places;
                 if (other < rights) {
                     int left = free[k];
