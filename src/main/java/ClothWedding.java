@@ -795,7 +795,8 @@ public final class ClothWedding {
             asks = true;
         }
 
-        void test(int open) {
+        // What calls itself, by way of others, is private: rule 8 of the language wants it so.
+        private void test(int open) {
             both(open);
             for (int i = 0; i < TAPE && text.takeWord("or"); i++) {
                 both(open);
@@ -853,7 +854,7 @@ public final class ClothWedding {
             return SAME;
         }
 
-        void sum(int open) {
+        private void sum(int open) {
             product(open);
             for (int i = 0; i < TAPE && text.sound(); i++) {
                 int op = text.takeSign('+') ? ADD : text.takeSign('-') ? SUBTRACT : NONE;

@@ -23,6 +23,7 @@ public final class ActsBoundsTest {
         theSeedWraps();
         countedByKind();
         refusedLeaveAll();
+        fiveHundredAndTwelveCalls();
         Check.finish("ActsBoundsTest");
     }
 
@@ -488,5 +489,42 @@ public final class ActsBoundsTest {
         };
         Bounds.stays("rounds beyond SPRING 999", late, x -> x.rounds(3), -1, 3);
         Bounds.stays("chance beyond SPRING 999", late, x -> x.chance(3), -1, 3);
+    }
+
+    /** "An object is used for at most 512 calls after it has been made": up to the last one all holds. */
+    private static void fiveHundredAndTwelveCalls() {
+        ClothWedding x = new ClothWedding();
+        for (int i = 0; i < 511; i++) {
+            x.undo();
+        }
+        Check.due("refused 511 times", x.status(4), 511);
+        ClothWedding y = new ClothWedding();
+        for (int i = 0; i < 511; i++) {
+            y.rounds(1 + i % 3);
+        }
+        Check.due("SPRING by 511 calls", y.has(3), (511 / 3 * 6 + 1) / 3);
+        ClothWedding z = Bounds.church(1, 1, "lets not all;rounds 1;");
+        for (int i = 0; i < 250; i++) {
+            z.rounds(1);
+            z.part(0);
+        }
+        Check.due("kept by 250 weddings", z.kept(39, 0), 249);
+        Check.due("the oldest told", z.kept(0, 0), 210);
+        Check.due("can be undone", z.has(9), 20);
+        ClothWedding w = new ClothWedding();
+        for (int i = 0; i < 511; i++) {
+            w.feed(i, i, i, i, i);
+        }
+        Check.due("no room 431 times", w.status(0), 431);
+        ClothWedding v = new ClothWedding();
+        for (int i = 0; i < 511; i++) {
+            v.church();
+        }
+        Check.due("churches of nothing", v.status(1), 0);
+        ClothWedding u = new ClothWedding();
+        for (int i = 0; i < 511; i++) {
+            u.ask();
+        }
+        Check.due("the last question's FAULT", u.fault(0), 1);
     }
 }

@@ -76,6 +76,13 @@ public final class AheadBoundsTest {
         Check.due("later 0", x.later(0, 0), 1);
         Check.due("pairs 0", x.pairs(0), 1);
         Check.due("later 60", x.later(1, 60), 0);
+        Check.due("later -1", x.later(0, -1), -1);
+        Check.due("later 61", x.later(0, 61), -1);
+        Check.due("pairs -1", x.pairs(-1), -1);
+        Check.due("teach 0", x.teach(0, 0), -1);
+        Check.due("teach 1", x.teach(0, 1), 0);
+        Check.due("change 0", x.change(0, 3), -1);
+        Check.due("change 1", x.change(1, 3), 1);
         x.part(0);
         Check.due("later 0", x.later(0, 0), -1);
         Check.due("when", x.when(0), 1);

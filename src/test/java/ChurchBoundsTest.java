@@ -25,6 +25,9 @@ public final class ChurchBoundsTest {
         tooSoon();
         theFirstAlongTheText();
         fullTape();
+        asAtFirst();
+        refusedLeavesAll();
+        behindQuestions();
         Check.finish("ChurchBoundsTest");
     }
 
@@ -177,13 +180,22 @@ public final class ChurchBoundsTest {
         Check.due("0 without, behind another church", behind(AB + "slip 100;", AB, x -> x.chance(100)), 0);
     }
 
-    /** What a church answers that is told behind another one. */
+    /** What a church answers that is told behind another one, behind two, behind one with a FAULT: always the same. */
     private static long behind(String first, String then, ToLongFunction<ClothWedding> asked) {
+        long answer = lastOf(asked, first, then);
+        Check.due("behind two: " + then, lastOf(asked, first, A, then), answer);
+        Check.due("behind three: " + then, lastOf(asked, first, A, first, then), answer);
+        Check.due("behind a FAULT: " + then, lastOf(asked, first + "x", then), answer);
+        Check.due("behind a FAULT and another: " + then, lastOf(asked, A, first + "left", then), answer);
+        return answer;
+    }
+
+    private static long lastOf(ToLongFunction<ClothWedding> asked, String... texts) {
         ClothWedding x = new ClothWedding();
-        Check.tape(x, first);
-        x.church();
-        Check.tape(x, then);
-        x.church();
+        for (String text : texts) {
+            Check.tape(x, text);
+            x.church();
+        }
         return asked.applyAsLong(x);
     }
 
@@ -211,7 +223,6 @@ public final class ChurchBoundsTest {
             y.rounds(1);
             return y.pair(0, 1, 1);
         }), 1);
-        Check.due("told again behind a church with FAULTS", behind(told + "x", told, y -> y.pair(0, 1, 2)), 50);
         Check.due("told again behind another church", behind(told, told, y -> y.pair(0, 1, 2)), 50);
     }
 
@@ -282,7 +293,8 @@ public final class ChurchBoundsTest {
         Check.churchSound(five + "right rf warm 1 work 1 size 1;", 7);
         Check.churchFault(five + "right re warm 1 work 1 size 1;", 3, five.length() + 6);
         Check.due("free again behind another church", behind(AB, B + A, x -> x.has(0) * 10 + x.has(1)), 11);
-        Check.due("free again behind a FAULT", behind(AB + "x", B + A, x -> x.has(0) * 10 + x.has(1)), 11);
+        Check.due("a side is empty again", behind(Bounds.people(6, 6), Bounds.people(6, 6), x -> x.has(0) * 10 + x.has(1)), 66);
+        Check.due("a side is empty again", behind(Bounds.people(6, 6), A, x -> x.has(0) * 10 + x.has(1)), 10);
     }
 
     /** "told ahead of where they are asked", "3 .. one that is none of what is asked" */
@@ -298,8 +310,11 @@ public final class ChurchBoundsTest {
         Check.due("its FAULT", x.fault(0), 3);
         Check.due("its place", x.fault(1), 34);
         Check.due("kin of the church before are none", behind(AB + "kin a b;", AB, y -> y.has(2) + y.pair(0, 1, 4)), 0);
-        Check.due("kin of a FAULTY one are none", behind(AB + "kin a b;x", AB, y -> y.has(2) + y.pair(0, 1, 4)), 0);
-        Check.due("likings of the one before are none", behind(AB + "likes a b 9;knows a b 9;", AB, y -> y.pair(0, 1, 2)), 5);
+        Check.due("kin may be told again", behind(AB + "kin a b;", AB + "kin a b;", y -> y.has(2) + y.pair(1, 0, 4)), 2);
+        Check.due("likings of the one before are none", behind(AB + "likes a b 9;likes b a 0;", AB,
+            y -> y.pair(0, 1, 0) * 10 + y.pair(1, 0, 0)), 55);
+        Check.due("knowing of the one before is none", behind(AB + "knows a b 9;knows b a 1;", AB,
+            y -> y.pair(0, 1, 1) + y.pair(1, 0, 1)), 0);
     }
 
     /** "Blanks (10, 32) are where one likes" */
@@ -343,6 +358,12 @@ public final class ChurchBoundsTest {
         Check.churchFault("feels min1,2);", 1, 9);
         Check.churchFault("slip 1 2;", 1, 7);
         Check.churchFault("left a b;", 1, 7);
+        Check.churchFault("left a 1 work 1 size 1;", 1, 7);
+        Check.churchFault("left a warm 1 1 size 1;", 1, 14);
+        Check.churchFault("left a warm 1 work 1 1;", 1, 21);
+        Check.churchFault("left a work 1 size 1;", 1, 7);
+        Check.churchFault("left a warm 1 size 1;", 1, 14);
+        Check.churchFault("left a warm 1 work 1;", 1, 20);
     }
 
     /** "at the text's length, if it ends too soon", wherever a text is cut. */
@@ -409,5 +430,82 @@ public final class ChurchBoundsTest {
         Check.churchFault("z".repeat(1600), 1, 0);
         Check.churchFault("left " + "z".repeat(1595), 1, 11);
         Check.churchFault("slip " + "0".repeat(1595), 1, 9);
+    }
+
+    private static final String FOUR = Bounds.people(2, 2) + "slip 30;kin la rb;likes la ra 8;knows rb lb 3;rounds 2;";
+
+    private static ClothWedding lived() {
+        ClothWedding x = Check.church(FOUR);
+        x.rounds(5);
+        x.chance(2);
+        x.swap(0, 0, 1);
+        x.like(0, 2, 2);
+        x.learn(3, 0, 7);
+        Bounds.see(x, 3, 0, 1);
+        x.image();
+        return x;
+    }
+
+    /** "Without one all is as at first, nothing is KEPT, SEEN or can be undone; the seed stays." */
+    private static void asAtFirst() {
+        ClothWedding x = lived();
+        Check.due("lived", x.has(6) * 100 + x.has(7) * 10 + x.has(8), 111);
+        Check.due("in a ROUND, a SPRING", x.has(3) * 10 + x.has(4), 31);
+        Check.due("waited", x.person(0, 4) + x.person(1, 4) > 0, true);
+        Check.due("acts", x.has(9), 5);
+        Check.tape(x, FOUR);
+        Check.due("church", x.church(), 9);
+        ClothWedding y = Check.church(FOUR);
+        x.seed(9);
+        y.seed(9);
+        x.image();
+        y.image();
+        Bounds.alike("as at first", x, y);
+        ClothWedding z = lived();
+        Check.tape(z, "");
+        Check.due("nothing told", z.church(), 0);
+        int[] due = {0, 0, 0, 0, 0, 3, 0, 0, 0, 0};
+        for (int what = 0; what < 10; what++) {
+            Check.due("nothing told: has " + what, z.has(what), due[what]);
+        }
+        z.seed(1);
+        z.image();
+        ClothWedding none = new ClothWedding();
+        none.image();
+        Bounds.alike("nothing told", z, none);
+    }
+
+    /** "NONE, refused (1), with a FAULT (all stays)" */
+    private static void refusedLeavesAll() {
+        for (String text : new String[] {"x", A + "x", FOUR + ";", "rounds 7;slip 101;", "kin la ra;", "feels ((((((((1;",
+            "slip 1;".repeat(61), "left", AB + "kin a b;kin a b;"}) {
+            Bounds.stays("church of " + text, ChurchBoundsTest::lived, x -> {
+                Check.tape(x, text);
+                return x.church();
+            }, -1, 1);
+        }
+    }
+
+    /** A QUESTION's words are none of a church that is told behind it, and a church's none of a QUESTION. */
+    private static void behindQuestions() {
+        for (String question : new String[] {"total likes 1", "first number=1", "total likes likes x", "most knows((1"}) {
+            ClothWedding x = Check.church(AB);
+            Check.ask(x, question);
+            Check.tape(x, AB + "feels known+liking*2;lets feel<11 and waited=0;learns feel/2;");
+            Check.due("church behind " + question, x.church(), 5);
+            Check.due("its feels", x.pair(0, 1, 2), 10);
+            Check.due("its lets", x.pair(0, 1, 3), 1);
+            Check.ask(x, question);
+            Check.tape(x, AB + "feels likes 1;");
+            Check.due("likes in a church", x.church(), -1);
+            Check.due("its place", x.fault(1), 63);
+            Check.ask(x, question);
+            Check.tape(x, AB + "feels number;");
+            Check.due("number in a church", x.church(), -1);
+            Check.due("its place", x.fault(1), 63);
+            Check.askFault(x, "total liking", 1, 6);
+            Check.due("the church stays", x.pair(0, 1, 2), 10);
+            Check.due("a question again", Check.ask(x, "total likes 1+number"), 6);
+        }
     }
 }

@@ -16,6 +16,7 @@ public final class FormulaBoundsTest {
         feltFromNoughtTo99();
         learntFromNoughtToNine();
         wordsOfEach();
+        whatIsMissing();
         Check.finish("FormulaBoundsTest");
     }
 
@@ -325,5 +326,50 @@ public final class FormulaBoundsTest {
                 Check.churchFault("learns " + words[i] + ";", 1, 7);
             }
         }
+    }
+
+    /** "1 the first byte with which no such text goes on": SIGNS, commas and brackets that are not there. */
+    private static void whatIsMissing() {
+        Check.churchFault("lets 1 2;", 1, 7);
+        Check.churchFault("lets (1)(2);", 1, 8);
+        Check.churchFault("lets (1)known;", 1, 8);
+        Check.churchFault("lets known[all];", 1, 10);
+        Check.churchFault("lets 1<;", 1, 7);
+        Check.churchFault("lets <1;", 1, 5);
+        Check.churchFault("lets 1<=2;", 1, 7);
+        Check.churchFault("lets 1>=2;", 1, 7);
+        Check.churchFault("lets 1==2;", 1, 7);
+        Check.churchFault("lets 1!2;", 1, 6);
+        Check.churchFault("lets [all all];", 1, 10);
+        Check.churchFault("lets [all);", 1, 9);
+        Check.churchFault("lets [];", 1, 6);
+        Check.churchFault("lets ];", 1, 5);
+        Check.churchFault("lets and all;", 1, 5);
+        Check.churchFault("lets or all;", 1, 5);
+        Check.churchFault("lets all not all;", 1, 9);
+        Check.churchFault("feels min(1 2);", 1, 12);
+        Check.churchFault("feels min((1)(2));", 1, 13);
+        Check.churchFault("feels min(1);", 1, 11);
+        Check.churchFault("feels min(,1);", 1, 10);
+        Check.churchFault("feels min(1,);", 1, 12);
+        Check.churchFault("feels min(1,2,3);", 1, 13);
+        Check.churchFault("feels max[1,2];", 1, 9);
+        Check.churchFault("feels min;", 1, 9);
+        Check.churchFault("feels ();", 1, 7);
+        Check.churchFault("feels (1];", 1, 8);
+        Check.churchFault("feels (1<2);", 1, 8);
+        Check.churchFault("feels 1(2);", 1, 7);
+        Check.churchFault("feels +1;", 1, 6);
+        Check.churchFault("feels 1+-1;", 1, 8);
+        Check.churchFault("feels 1%2;", 1, 7);
+        Check.churchFault("feels all;", 1, 6);
+        Check.churchFault("feels 1,2;", 1, 7);
+        ClothWedding x = Bounds.church(1, 1, "");
+        Check.askFault(x, "first 1 2", 1, 8);
+        Check.askFault(x, "first (1)(2)", 1, 9);
+        Check.askFault(x, "total min(1 2)", 1, 12);
+        Check.askFault(x, "total likes()", 1, 12);
+        Check.askFault(x, "total likes(1", 1, 13);
+        Check.askFault(x, "total likes(1,2)", 1, 13);
     }
 }

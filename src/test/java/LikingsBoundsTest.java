@@ -72,6 +72,8 @@ public final class LikingsBoundsTest {
         match("together", Bounds.church(2, 2, likings(2, 2, 0) + "likes la ra 9;likes ra la 9;likes la rb 9;likes lb ra 9;likes rb la 1;"),
             19, 3, 2);
         match("not the most of the first", Bounds.church(2, 2, likings(2, 2, 0) + "likes la ra 9;likes la rb 8;likes lb ra 2;"), 10, 3, 2);
+        match("the second has none", Bounds.church(3, 2, "likes la ra 9;likes ra la 9;likes lc rb 9;likes rb lc 9;"), 36, 3, -1, 4);
+        match("the third has none", Bounds.church(4, 3, "likes la rb 9;likes lb ra 9;likes ld rc 9;likes rc ld 6;"), 43, 5, 4, -1, 6);
         ClothWedding six = Bounds.church(6, 6, "");
         for (int l = 0; l < 6; l++) {
             for (int r = 6; r < 12; r++) {

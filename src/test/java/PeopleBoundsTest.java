@@ -16,6 +16,7 @@ public final class PeopleBoundsTest {
         theLastRound();
         waited();
         whoWaits();
+        hisOwnWaiting();
         kinAndWhoLetsGo();
         ahead();
         fortyAreTold();
@@ -113,7 +114,14 @@ public final class PeopleBoundsTest {
         }
     }
 
+    /** "0 SPRING, 1 ROUND, 2 the left one, 3 the right one" */
     private static void keptOfOthers() {
+        for (int lefts = 1; lefts <= 6; lefts++) {
+            ClothWedding late = Bounds.church(lefts, 1, "lets round<11 or spring<9;rounds 12;");
+            Check.due("wed in the last ROUND", late.rounds(100) + late.rounds(20), 1);
+            Bounds.due("kept of " + lefts, new int[] {late.kept(0, 0), late.kept(0, 1), late.kept(0, 2), late.kept(0, 3)},
+                9, 11, late.person(lefts, 3), lefts);
+        }
         ClothWedding x = Bounds.church(1, 1, "lets not all;");
         Check.due("none yet", x.kept(0, 0), -1);
         x.rounds(1);
@@ -276,6 +284,23 @@ public final class PeopleBoundsTest {
         y.part(1);
         y.rounds(1);
         Bounds.due("not within a SPRING", new int[] {y.person(0, 4), y.person(1, 4), y.person(2, 4)}, 1, 0, 0);
+    }
+
+    /** "how many SPRINGS he has waited": he who holds, not whose hand it is */
+    private static void hisOwnWaiting() {
+        ClothWedding x = Bounds.church(2, 2, "rounds 1;lets liking<9 and waited<4;likes la ra 9;likes ra la 9;");
+        Check.due("la and ra at once", x.rounds(1), 1);
+        Check.due("lb and rb by waiting", x.rounds(3), 0);
+        Check.due("lb waited", x.person(1, 4), 4);
+        x.part(0);
+        Check.due("la waited", x.person(0, 4), 0);
+        Check.due("la lets rb go", x.pair(0, 3, 3), 1);
+        Check.due("rb holds la", x.pair(3, 0, 3), 0);
+        Check.due("lb holds ra", x.pair(1, 2, 3), 0);
+        Check.due("ra lets lb go", x.pair(2, 1, 3), 1);
+        x.swap(0, 0, 1);
+        Check.due("so none are wed", x.pairs(1), 0);
+        Check.due("until la and ra have waited", x.when(0), 5);
     }
 
     /** "of two who hold one another's, if neither LETS it go, and they are no KIN, they are WED" */

@@ -300,6 +300,10 @@ public final class SizesBoundsTest {
         tells("the thirtieth", x, 1, 30, 0, 5);
         Bounds.at(x, 967, 0);
         tells("thirty-one and more are not told", x, 1, 30, 0, 6);
+        Bounds.see(x, 20, 0, 0);
+        tells("behind what is SEEN", x, 1, 30, 0, 6);
+        Bounds.see(x, 30, 0, 0);
+        tells("nothing more", x, 1, 1, 0, 6);
     }
 
     private static void tellsOfOthers() {
